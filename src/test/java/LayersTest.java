@@ -212,6 +212,11 @@ public final class LayersTest {
         wall.hide(1);
         Check.same("a hidden one changes nothing", wall.moveLayer(1, 3), 0);
         Check.same("after it", modes(wall) + wall.isVisible(3) + wall.painted(3), "dsnmfalse16");
+        wall.show(3);
+        wall.paint(0, 0, 0, 0, 0, 3);
+        wall.paint(0, 7, 5, 7, 5, 3);
+        wall.paint(1, 7, 5, 7, 5, 9);
+        Check.same("the corners", wall.moveLayer(0, 2), 2);
         for (int layer : new int[] {-1, 4, 5, 6, Integer.MIN_VALUE, Integer.MAX_VALUE}) {
             Check.refuses("move from " + layer, wall, IndexOutOfBoundsException.class, () -> wall.moveLayer(layer, 0));
             Check.refuses("move to " + layer, wall, IndexOutOfBoundsException.class, () -> wall.moveLayer(0, layer));
@@ -237,6 +242,11 @@ public final class LayersTest {
                 + "\ns+ ........ ........ ........ ........ ........ ........ ");
         Check.same("no cell is painted by it", wall.paintedCells(), 10);
         Check.same("no cell is erased by it", wall.erasedCells(), 0);
+        ShadowWall corners = wallWith("nn");
+        corners.paint(1, 0, 0, 0, 0, 0);
+        corners.paint(1, 7, 5, 7, 5, 15);
+        Check.same("mergeDown of the corners", corners.mergeDown(1), 2);
+        Check.same("after it", corners.tone(0, 0, 0) + " " + corners.tone(0, 7, 5), "0 15");
         ShadowWall empty = wallWith("nn");
         Check.same("mergeDown of two empty ones", empty.mergeDown(1), 0);
         Check.same("one is left", empty.layerCount(), 1);

@@ -177,6 +177,8 @@ public final class SeenTest {
         Check.same("areas of an empty wall", areas(empty), "1 1 48");
         ShadowWall wall = wallLike("00112222", "01112002", "11..2002", "1.ff2222", "........", "1......1");
         Check.same("areaSize in a corner", wall.areaSize(0, 0), 3);
+        Check.same("areaSize in the same corner again", wall.areaSize(0, 0), 3);
+        Check.same("areaSize of another cell of it", wall.areaSize(1, 0), 3);
         Check.same("areaSize of a stair", wall.areaSize(0, 3), 8);
         Check.same("areaSize of a ring", wall.areaSize(7, 2), 12);
         Check.same("areaSize in the ring", wall.areaSize(6, 1), 4);
@@ -199,6 +201,7 @@ public final class SeenTest {
         Check.same("areas of rows", areas(rows), "6 6 8");
         ShadowWall columns = wallLike("01010101", "01010101", "01010101", "01010101", "01010101", "01010101");
         Check.same("areas of columns", areas(columns), "8 8 6");
+        Check.same("two ends that are joined from below", areas(wallLike("01011111", "00011111")), "4 4 32");
     }
 
     private static void promise26WindingArea() {
@@ -211,6 +214,12 @@ public final class SeenTest {
 
     private static void promise30DarkestRow() {
         Check.same("all rows the same", new ShadowWall().darkestRow(), 0);
+        for (int y = 0; y < 6; y++) {
+            ShadowWall one = new ShadowWall();
+            one.addLayer('n');
+            one.paint(0, 7, y, 7, y, 14);
+            Check.same("the only row that is darker", one.darkestRow(), y);
+        }
         ShadowWall wall = wallLike("........", ".......e", "........", "0.......", "7.......", "71......");
         Check.same("the lowest row", wall.darkestRow(), 5);
         wall.paint(0, 1, 5, 1, 5, 8);
