@@ -15,22 +15,6 @@ public final class CommandsTest {
         Check.end();
     }
 
-    private static void feed(ShadowWall wall, String text) {
-        for (char character : text.toCharArray()) {
-            wall.feed(character);
-        }
-    }
-
-    private static int run(ShadowWall wall, String text) {
-        feed(wall, text);
-        return wall.runCommands();
-    }
-
-    private static void runRefused(ShadowWall wall, String text, Class<? extends RuntimeException> due) {
-        feed(wall, text);
-        Check.throwsJust("runCommands of \"" + text + "\"", due, wall::runCommands);
-    }
-
     private static void promise39Feed() {
         ShadowWall wall = new ShadowWall();
         for (int length = 1; length <= 60; length++) {
@@ -46,59 +30,59 @@ public final class CommandsTest {
     private static void promise40EachCommand() {
         ShadowWall wall = new ShadowWall();
         for (char mode : "nmsdla".toCharArray()) {
-            Check.same("layer", run(wall, "layer " + mode), 1);
+            Check.same("layer", Walls.run(wall, "layer " + mode), 1);
             Check.same("its mode", wall.mode(wall.layerCount() - 1), mode);
         }
         wall.removeLayer(5);
-        Check.same("paint", run(wall, "paint 1 2435 7"), 1);
+        Check.same("paint", Walls.run(wall, "paint 1 2435 7"), 1);
         Check.same("what is painted", wall.painted(1) + " " + wall.tone(1, 2, 4) + wall.tone(1, 3, 5), "4 77");
-        Check.same("a tone of two digits", run(wall, "paint 1 0000 15"), 1);
+        Check.same("a tone of two digits", Walls.run(wall, "paint 1 0000 15"), 1);
         Check.same("it is there", wall.tone(1, 0, 0), 15);
-        Check.same("a tone with a zero before it", run(wall, "paint 1 0000 03"), 1);
+        Check.same("a tone with a zero before it", Walls.run(wall, "paint 1 0000 03"), 1);
         Check.same("it is there", wall.tone(1, 0, 0), 3);
-        Check.same("erase", run(wall, "erase 1 24 1"), 1);
+        Check.same("erase", Walls.run(wall, "erase 1 24 1"), 1);
         Check.same("what is left", wall.painted(1) + " " + wall.hasTone(1, 3, 5), "2 true");
         Check.same("erasedCells", wall.erasedCells(), 3);
-        Check.same("hide", run(wall, "hide 4"), 1);
+        Check.same("hide", Walls.run(wall, "hide 4"), 1);
         Check.same("it is hidden", wall.isVisible(4), false);
-        Check.same("show", run(wall, "show 4"), 1);
+        Check.same("show", Walls.run(wall, "show 4"), 1);
         Check.same("it is visible", wall.isVisible(4), true);
-        Check.same("cast", run(wall, "cast 1 9"), 1);
+        Check.same("cast", Walls.run(wall, "cast 1 9"), 1);
         Check.same("the shadow", wall.mode(5) + " " + wall.painted(5) + wall.layerCount(), "m 06");
         wall.removeLayer(5);
-        Check.same("cast at an hour of two digits", run(wall, "cast 1 13"), 1);
+        Check.same("cast at an hour of two digits", Walls.run(wall, "cast 1 13"), 1);
         Check.same("the shadow", wall.painted(5) + " " + wall.tone(5, 1, 1), "1 8");
         Check.same("paintedCells", wall.paintedCells(), 4 + 1 + 1 + 1);
-        Check.same("move", run(wall, "move 1 4"), 1);
+        Check.same("move", Walls.run(wall, "move 1 4"), 1);
         Check.same("it is moved", wall.painted(4) + " " + wall.mode(4) + wall.mode(1), "2 ms");
         ShadowWall two = new ShadowWall();
-        run(two, "layer n;layer n;paint 0 0011 1;paint 1 0070 2");
-        Check.same("merge", run(two, "merge 1"), 1);
+        Walls.run(two, "layer n;layer n;paint 0 0011 1;paint 1 0070 2");
+        Check.same("merge", Walls.run(two, "merge 1"), 1);
         Check.same("merged", two.layerCount() + " " + two.painted(0) + " " + two.tone(0, 1, 0), "1 10 2");
     }
 
     private static void promise40ManyCommands() {
         ShadowWall wall = new ShadowWall();
         wall.addLayer('n');
-        Check.same("8 commands", run(wall, "hide 0;show 0;hide 0;show 0;hide 0;show 0;hide 0;move 0 0"), 8);
+        Check.same("8 commands", Walls.run(wall, "hide 0;show 0;hide 0;show 0;hide 0;show 0;hide 0;move 0 0"), 8);
         Check.same("after them", wall.isVisible(0), false);
         String full = "layer n;layer m;paint 1 0000 1;paint 2 0075 15;erase 2 00 0;";
         Check.same("60 characters", full.length(), 60);
-        feed(wall, full.substring(0, 59));
+        Walls.feed(wall, full.substring(0, 59));
         wall.feed('1');
         Check.throwsJust("60 characters, malformed", IllegalArgumentException.class, wall::runCommands);
         Check.same("the last one does not fit", wall.errorPosition(), 59);
-        Check.same("5 commands", run(wall, full.substring(0, 59)), 5);
+        Check.same("5 commands", Walls.run(wall, full.substring(0, 59)), 5);
         Check.same("after them", wall.layerCount() + " " + wall.painted(1) + " " + wall.painted(2), "3 1 47");
         String sixty = "show 0;layer s;layer d;layer l;hide 1;show 1;paint 4 0000 12";
         Check.same("60 characters", sixty.length(), 60);
-        Check.same("7 commands", run(wall, sixty), 7);
+        Check.same("7 commands", Walls.run(wall, sixty), 7);
         Check.same("after them", wall.tone(4, 0, 0), 12);
     }
 
     private static void promise40RunOfThemIsOneCall() {
         ShadowWall wall = new ShadowWall();
-        Check.same("3 commands", run(wall, "layer n;paint 0 0011 4;hide 0"), 3);
+        Check.same("3 commands", Walls.run(wall, "layer n;paint 0 0011 4;hide 0"), 3);
         Check.same("they are recorded as one", wall.undoCount(), 1);
         Check.same("undo", wall.undo(), 0);
         Check.same("all are undone", wall.layerCount() + " " + wall.paintedCells(), "0 0");
@@ -106,7 +90,7 @@ public final class CommandsTest {
 
     private static void promise40FailureKeepsTheState() {
         ShadowWall wall = new ShadowWall();
-        run(wall, "layer n;layer a;paint 0 0011 4;paint 1 1122 9;hide 1");
+        Walls.run(wall, "layer n;layer a;paint 0 0011 4;paint 1 1122 9;hide 1");
         wall.erase(0, 0, 0, 0);
         wall.save();
         wall.writeLayers();
@@ -116,7 +100,7 @@ public final class CommandsTest {
             "paint 0 0600 1", "paint 0 0080 1", "paint 0 0006 1", "paint 0 1000 1", "paint 0 0100 1",
             "paint 0 0000 16", "paint 0 0000 99", "erase 3 00 1", "erase 0 80 1", "erase 0 06 1"};
         for (String command : failing) {
-            runRefused(wall, "layer n;paint 2 0033 1;erase 2 00 1;" + command,
+            Walls.runRefused(wall, "layer n;paint 2 0033 1;erase 2 00 1;" + command,
                     UnsupportedOperationException.class);
             Check.same("failed command of " + command, wall.failedCommand(), 3);
             Check.same("the state after " + command, Picture.of(wall).replace("failed 3", "failed none"), before);
@@ -124,18 +108,18 @@ public final class CommandsTest {
             Check.throwsJust("an x", IllegalArgumentException.class, wall::runCommands);
             before = before.replace("error none", "error 0");
         }
-        runRefused(wall, "cast 0 12;cast 0 12;cast 0 12;cast 0 12;cast 0 12", UnsupportedOperationException.class);
+        Walls.runRefused(wall, "cast 0 12;cast 0 12;cast 0 12;cast 0 12;cast 0 12", UnsupportedOperationException.class);
         Check.same("the seventh layer", wall.failedCommand(), 4);
-        runRefused(wall, "layer n;layer n;layer n;layer n;layer n", UnsupportedOperationException.class);
+        Walls.runRefused(wall, "layer n;layer n;layer n;layer n;layer n", UnsupportedOperationException.class);
         Check.same("the state after it", Picture.of(wall).replace("failed 4", "failed none"), before);
         Check.same("what can be undone", wall.undo() + " " + wall.undo(), "1 0");
-        Check.same("the greatest radius is one that can be written", run(wall, "layer n;paint 0 0075 1;erase 0 00 9"), 3);
+        Check.same("the greatest radius is one that can be written", Walls.run(wall, "layer n;paint 0 0075 1;erase 0 00 9"), 3);
         Check.same("after it", wall.painted(0), 0);
     }
 
     private static void promise40MalformedComesFirst() {
         ShadowWall wall = new ShadowWall();
-        runRefused(wall, "layer n;hide 5;shew 0", IllegalArgumentException.class);
+        Walls.runRefused(wall, "layer n;hide 5;shew 0", IllegalArgumentException.class);
         Check.same("no command was carried out", wall.layerCount(), 0);
         Check.same("the error position", wall.errorPosition(), 17);
         Check.throwsJust("no command failed", NoSuchElementException.class, wall::failedCommand);
@@ -219,7 +203,7 @@ public final class CommandsTest {
         ShadowWall wall = new ShadowWall();
         wall.addLayer('n');
         String before = Picture.of(wall);
-        runRefused(wall, text, IllegalArgumentException.class);
+        Walls.runRefused(wall, text, IllegalArgumentException.class);
         Check.same("error position of \"" + text + "\"", wall.errorPosition(), position);
         Check.same("the state after it", Picture.of(wall).replace("error " + position, "error none"), before);
         Check.same("the input buffer is empty after it", wall.feed('l'), 1);
@@ -228,22 +212,22 @@ public final class CommandsTest {
     private static void promise41NoErrorPosition() {
         ShadowWall wall = new ShadowWall();
         Check.refuses("errorPosition at first", wall, NoSuchElementException.class, wall::errorPosition);
-        run(wall, "layer n");
+        Walls.run(wall, "layer n");
         Check.refuses("errorPosition when all is well", wall, NoSuchElementException.class, wall::errorPosition);
-        runRefused(wall, "show 0", UnsupportedOperationException.class);
+        Walls.runRefused(wall, "show 0", UnsupportedOperationException.class);
         Check.refuses("errorPosition of a failed one", wall, NoSuchElementException.class, wall::errorPosition);
-        runRefused(wall, "shew 0", IllegalArgumentException.class);
+        Walls.runRefused(wall, "shew 0", IllegalArgumentException.class);
         Check.same("errorPosition", wall.errorPosition(), 2);
-        run(wall, "hide 0");
+        Walls.run(wall, "hide 0");
         Check.same("errorPosition is kept when a later text is well", wall.errorPosition(), 2);
-        runRefused(wall, "hide 0", UnsupportedOperationException.class);
+        Walls.runRefused(wall, "hide 0", UnsupportedOperationException.class);
         Check.same("errorPosition is kept when a later text fails", wall.errorPosition(), 2);
         wall.undo();
         Check.same("errorPosition is not undone", wall.errorPosition(), 2);
-        runRefused(wall, "", IllegalArgumentException.class);
+        Walls.runRefused(wall, "", IllegalArgumentException.class);
         Check.same("errorPosition of the latest", wall.errorPosition(), 0);
         wall.save();
-        runRefused(wall, "hides", IllegalArgumentException.class);
+        Walls.runRefused(wall, "hides", IllegalArgumentException.class);
         wall.restore();
         Check.same("errorPosition is not restored", wall.errorPosition(), 4);
     }
@@ -251,18 +235,18 @@ public final class CommandsTest {
     private static void promise42FailedCommand() {
         ShadowWall wall = new ShadowWall();
         Check.refuses("failedCommand at first", wall, NoSuchElementException.class, wall::failedCommand);
-        run(wall, "layer n");
+        Walls.run(wall, "layer n");
         Check.refuses("failedCommand when all is well", wall, NoSuchElementException.class, wall::failedCommand);
-        runRefused(wall, "layer m;layer n;merge 1", UnsupportedOperationException.class);
+        Walls.runRefused(wall, "layer m;layer n;merge 1", UnsupportedOperationException.class);
         Check.same("failedCommand", wall.failedCommand(), 2);
-        run(wall, "hide 0");
+        Walls.run(wall, "hide 0");
         Check.same("failedCommand is kept when a later text is well", wall.failedCommand(), 2);
-        runRefused(wall, "hide", IllegalArgumentException.class);
+        Walls.runRefused(wall, "hide", IllegalArgumentException.class);
         Check.same("failedCommand is kept when a later text is malformed", wall.failedCommand(), 2);
         wall.undo();
         Check.same("failedCommand is not undone", wall.failedCommand(), 2);
         wall.save();
-        runRefused(wall, "hide 7;hide 0", UnsupportedOperationException.class);
+        Walls.runRefused(wall, "hide 7;hide 0", UnsupportedOperationException.class);
         Check.same("failedCommand of the latest", wall.failedCommand(), 0);
         wall.restore();
         Check.same("failedCommand is not restored", wall.failedCommand(), 0);

@@ -3,8 +3,6 @@ import java.util.NoSuchElementException;
 /** Promises 1 to 17 and 32 to 35: what is done to the layers, and what can be asked of each. */
 public final class LayersTest {
     private static final int[] NO_LAYERS_OF_TWO = {-1, 2, 6, 7, Integer.MIN_VALUE, Integer.MAX_VALUE};
-    private static final int[] NO_COLUMNS = {-1, 8, Integer.MIN_VALUE, Integer.MAX_VALUE};
-    private static final int[] NO_ROWS = {-1, 6, Integer.MIN_VALUE, Integer.MAX_VALUE};
 
     public static void main(String[] arguments) {
         promise1NewObject();
@@ -25,14 +23,6 @@ public final class LayersTest {
         promise33LayerByPaint();
         promises34And35Sums();
         Check.end();
-    }
-
-    private static ShadowWall wallWith(String modes) {
-        ShadowWall wall = new ShadowWall();
-        for (char mode : modes.toCharArray()) {
-            wall.addLayer(mode);
-        }
-        return wall;
     }
 
     private static void promise1NewObject() {
@@ -70,7 +60,7 @@ public final class LayersTest {
     }
 
     private static void promise3RemoveLayer() {
-        ShadowWall wall = wallWith("nmsdla");
+        ShadowWall wall = Walls.with("nmsdla");
         wall.paint(4, 0, 0, 0, 0, 3);
         Check.same("removeLayer in the middle", wall.removeLayer(2), 5);
         Check.same("the layer above goes down", wall.mode(2), 'd');
@@ -93,7 +83,7 @@ public final class LayersTest {
     }
 
     private static void promise4Paint() {
-        ShadowWall wall = wallWith("nn");
+        ShadowWall wall = Walls.with("nn");
         Check.same("paint", wall.paint(0, 2, 1, 4, 2, 7), 6);
         Check.same("what is painted", Picture.layers(wall),
                 "\nn+ ........ ..777... ..777... ........ ........ ........ "
@@ -110,7 +100,7 @@ public final class LayersTest {
     }
 
     private static void promise4PaintRefused() {
-        ShadowWall wall = wallWith("nn");
+        ShadowWall wall = Walls.with("nn");
         wall.paint(0, 2, 2, 3, 3, 4);
         Class<IndexOutOfBoundsException> index = IndexOutOfBoundsException.class;
         Class<IllegalArgumentException> argument = IllegalArgumentException.class;
@@ -118,12 +108,12 @@ public final class LayersTest {
             Check.refuses("paint layer " + layer, wall, index, () -> wall.paint(layer, 0, 0, 1, 1, 1));
             Check.refuses("paint layer and tone", wall, index, () -> wall.paint(layer, 1, 1, 0, 0, 16));
         }
-        for (int x : NO_COLUMNS) {
+        for (int x : Walls.NO_COLUMNS) {
             Check.refuses("paint left " + x, wall, index, () -> wall.paint(0, x, 0, 7, 1, 1));
             Check.refuses("paint right " + x, wall, index, () -> wall.paint(0, 0, 0, x, 1, 1));
             Check.refuses("paint right and tone", wall, index, () -> wall.paint(0, 0, 0, x, 1, -1));
         }
-        for (int y : NO_ROWS) {
+        for (int y : Walls.NO_ROWS) {
             Check.refuses("paint upper " + y, wall, index, () -> wall.paint(0, 0, y, 1, 5, 1));
             Check.refuses("paint lower " + y, wall, index, () -> wall.paint(0, 0, 0, 1, y, 1));
             Check.refuses("paint lower, and reversed", wall, index, () -> wall.paint(0, 1, 0, 0, y, 1));
@@ -136,7 +126,7 @@ public final class LayersTest {
     }
 
     private static void promise5Erase() {
-        ShadowWall wall = wallWith("nn");
+        ShadowWall wall = Walls.with("nn");
         wall.paint(0, 0, 0, 7, 5, 7);
         wall.paint(1, 0, 0, 7, 5, 1);
         Check.same("radius 0", wall.erase(0, 7, 0, 0), 1);
@@ -157,18 +147,18 @@ public final class LayersTest {
     }
 
     private static void promise5EraseRefused() {
-        ShadowWall wall = wallWith("nn");
+        ShadowWall wall = Walls.with("nn");
         wall.paint(0, 0, 0, 7, 5, 7);
         Class<IndexOutOfBoundsException> index = IndexOutOfBoundsException.class;
         for (int layer : NO_LAYERS_OF_TWO) {
             Check.refuses("erase layer " + layer, wall, index, () -> wall.erase(layer, 0, 0, 1));
             Check.refuses("erase layer and radius", wall, index, () -> wall.erase(layer, 0, 0, 10));
         }
-        for (int x : NO_COLUMNS) {
+        for (int x : Walls.NO_COLUMNS) {
             Check.refuses("erase x " + x, wall, index, () -> wall.erase(0, x, 0, 9));
             Check.refuses("erase x and radius", wall, index, () -> wall.erase(0, x, 0, -1));
         }
-        for (int y : NO_ROWS) {
+        for (int y : Walls.NO_ROWS) {
             Check.refuses("erase y " + y, wall, index, () -> wall.erase(0, 0, y, 9));
             Check.refuses("erase y and radius", wall, index, () -> wall.erase(0, 0, y, -1));
         }
@@ -179,7 +169,7 @@ public final class LayersTest {
     }
 
     private static void promises6And7HideAndShow() {
-        ShadowWall wall = wallWith("nn");
+        ShadowWall wall = Walls.with("nn");
         wall.paint(1, 0, 0, 7, 5, 3);
         Check.same("hide", wall.hide(1), 1);
         Check.same("isVisible of a hidden one", wall.isVisible(1), false);
@@ -198,7 +188,7 @@ public final class LayersTest {
     }
 
     private static void promise8MoveLayer() {
-        ShadowWall wall = wallWith("nmsd");
+        ShadowWall wall = Walls.with("nmsd");
         Check.same("move empty layers up", wall.moveLayer(0, 2), 0);
         Check.same("after it", modes(wall), "msnd");
         Check.same("move down", wall.moveLayer(3, 0), 0);
@@ -232,7 +222,7 @@ public final class LayersTest {
     }
 
     private static void promise9MergeDown() {
-        ShadowWall wall = wallWith("mnns");
+        ShadowWall wall = Walls.with("mnns");
         wall.paint(1, 0, 0, 3, 0, 2);
         wall.paint(2, 2, 0, 4, 1, 9);
         Check.same("mergeDown", wall.mergeDown(2), 8);
@@ -242,18 +232,18 @@ public final class LayersTest {
                 + "\ns+ ........ ........ ........ ........ ........ ........ ");
         Check.same("no cell is painted by it", wall.paintedCells(), 10);
         Check.same("no cell is erased by it", wall.erasedCells(), 0);
-        ShadowWall corners = wallWith("nn");
+        ShadowWall corners = Walls.with("nn");
         corners.paint(1, 0, 0, 0, 0, 0);
         corners.paint(1, 7, 5, 7, 5, 15);
         Check.same("mergeDown of the corners", corners.mergeDown(1), 2);
         Check.same("after it", corners.tone(0, 0, 0) + " " + corners.tone(0, 7, 5), "0 15");
-        ShadowWall empty = wallWith("nn");
+        ShadowWall empty = Walls.with("nn");
         Check.same("mergeDown of two empty ones", empty.mergeDown(1), 0);
         Check.same("one is left", empty.layerCount(), 1);
     }
 
     private static void promise9MergeDownRefused() {
-        ShadowWall wall = wallWith("mnnsn");
+        ShadowWall wall = Walls.with("mnnsn");
         Class<UnsupportedOperationException> operation = UnsupportedOperationException.class;
         Check.refuses("the upper one is not normal", wall, operation, () -> wall.mergeDown(3));
         Check.refuses("the lower one is not normal", wall, operation, () -> wall.mergeDown(4));
@@ -274,7 +264,7 @@ public final class LayersTest {
     }
 
     private static void promise10CastShadow() {
-        ShadowWall wall = wallWith("d");
+        ShadowWall wall = Walls.with("d");
         wall.paint(0, 2, 3, 3, 5, 0);
         wall.hide(0);
         Check.same("at noon, of a hidden layer", wall.castShadow(0, 12), 4);
@@ -297,7 +287,7 @@ public final class LayersTest {
     }
 
     private static void promise10CastShadowRefused() {
-        ShadowWall wall = wallWith("nn");
+        ShadowWall wall = Walls.with("nn");
         wall.paint(0, 0, 0, 7, 5, 1);
         Class<IndexOutOfBoundsException> index = IndexOutOfBoundsException.class;
         Class<IllegalArgumentException> argument = IllegalArgumentException.class;
@@ -309,7 +299,7 @@ public final class LayersTest {
         for (int hour : noHours) {
             Check.refuses("cast at " + hour, wall, argument, () -> wall.castShadow(0, hour));
         }
-        ShadowWall full = wallWith("nmsdla");
+        ShadowWall full = Walls.with("nmsdla");
         Check.refuses("cast with 6 layers", full, IllegalStateException.class, () -> full.castShadow(5, 12));
         Check.refuses("no such layer, and 6 layers", full, index, () -> full.castShadow(6, 12));
         for (int hour : noHours) {
@@ -318,7 +308,7 @@ public final class LayersTest {
     }
 
     private static void promises11To17Questions() {
-        ShadowWall wall = wallWith("sa");
+        ShadowWall wall = Walls.with("sa");
         wall.paint(0, 1, 2, 1, 2, 0);
         wall.hide(1);
         Check.same("layerCount", wall.layerCount(), 2);
@@ -338,18 +328,18 @@ public final class LayersTest {
             Check.refuses("tone of " + layer, wall, index, () -> wall.tone(layer, 1, 2));
             Check.refuses("painted of " + layer, wall, index, () -> wall.painted(layer));
         }
-        for (int x : NO_COLUMNS) {
+        for (int x : Walls.NO_COLUMNS) {
             Check.refuses("hasTone at x " + x, wall, index, () -> wall.hasTone(0, x, 2));
             Check.refuses("tone at x " + x, wall, index, () -> wall.tone(0, x, 2));
         }
-        for (int y : NO_ROWS) {
+        for (int y : Walls.NO_ROWS) {
             Check.refuses("hasTone at y " + y, wall, index, () -> wall.hasTone(0, 1, y));
             Check.refuses("tone at y " + y, wall, index, () -> wall.tone(0, 1, y));
         }
     }
 
     private static void promise32DifferentCells() {
-        ShadowWall wall = wallWith("nm");
+        ShadowWall wall = Walls.with("nm");
         Check.same("two empty ones", wall.differentCells(0, 1), 0);
         wall.paint(0, 0, 0, 3, 1, 5);
         wall.paint(1, 2, 0, 5, 1, 5);
@@ -368,7 +358,7 @@ public final class LayersTest {
     }
 
     private static void promise33LayerByPaint() {
-        ShadowWall wall = wallWith("nmsdl");
+        ShadowWall wall = Walls.with("nmsdl");
         wall.paint(1, 0, 0, 0, 0, 1);
         wall.paint(3, 0, 0, 1, 0, 1);
         wall.paint(4, 7, 0, 7, 0, 9);
@@ -385,7 +375,7 @@ public final class LayersTest {
     }
 
     private static void promises34And35Sums() {
-        ShadowWall wall = wallWith("nn");
+        ShadowWall wall = Walls.with("nn");
         wall.paint(0, 0, 0, 7, 5, 1);
         wall.paint(0, 0, 0, 1, 1, 1);
         Check.same("paintedCells, cells painted again included", wall.paintedCells(), 52);

@@ -2,9 +2,6 @@ import java.util.NoSuchElementException;
 
 /** Promises 18 to 31 and 36 to 38: the flattened wall. */
 public final class SeenTest {
-    private static final int[] NO_COLUMNS = {-1, 8, Integer.MIN_VALUE, Integer.MAX_VALUE};
-    private static final int[] NO_ROWS = {-1, 6, Integer.MIN_VALUE, Integer.MAX_VALUE};
-
     public static void main(String[] arguments) {
         promises18And19BlendModes();
         promises18And19Order();
@@ -21,20 +18,6 @@ public final class SeenTest {
         promise38IsConsistent();
         cellsThatAreNotThere();
         Check.end();
-    }
-
-    /** Rows of the wall's text are painted on a layer of its own: a hexadecimal tone or a point for nothing. */
-    private static ShadowWall wallLike(String... rows) {
-        ShadowWall wall = new ShadowWall();
-        wall.addLayer('n');
-        for (int y = 0; y < rows.length; y++) {
-            for (int x = 0; x < rows[y].length(); x++) {
-                if (rows[y].charAt(x) != '.') {
-                    wall.paint(0, x, y, x, y, Character.digit(rows[y].charAt(x), 16));
-                }
-            }
-        }
-        return wall;
     }
 
     private static void promises18And19BlendModes() {
@@ -55,7 +38,7 @@ public final class SeenTest {
                 }
             }
         }
-        ShadowWall wall = wallLike("9");
+        ShadowWall wall = Walls.like("9");
         wall.addLayer('s');
         wall.paint(1, 0, 0, 0, 0, 5);
         Check.same("15 minus 60 / 15", wall.seen(0, 0), 11);
@@ -113,7 +96,7 @@ public final class SeenTest {
     }
 
     private static void promises22And23Tones() {
-        ShadowWall wall = wallLike("01234567", "00112233", "........", "44444444", "44444444");
+        ShadowWall wall = Walls.like("01234567", "00112233", "........", "44444444", "44444444");
         Check.same("cellsWithTone 0", wall.cellsWithTone(0), 3);
         Check.same("cellsWithTone 4", wall.cellsWithTone(4), 17);
         Check.same("cellsWithTone 8", wall.cellsWithTone(8), 0);
@@ -125,7 +108,7 @@ public final class SeenTest {
         Check.same("15 cells are less than 16", wall.commonestTone(), 15);
         wall.hide(0);
         Check.same("a hidden layer", wall.cellsWithTone(15) + " " + wall.commonestTone(), "48 15");
-        ShadowWall black = wallLike("00000000", "00000000", "00000000");
+        ShadowWall black = Walls.like("00000000", "00000000", "00000000");
         Check.same("24 black and 24 white cells", black.commonestTone(), 0);
         for (int tone : new int[] {-1, 16, Integer.MIN_VALUE, Integer.MAX_VALUE}) {
             Check.refuses("cellsWithTone " + tone, wall, IllegalArgumentException.class,
@@ -134,7 +117,7 @@ public final class SeenTest {
     }
 
     private static void promises24And25Sums() {
-        ShadowWall wall = wallLike("12345678", "23456789", "3456789a", "456789ab", "56789abc", "6789abcd");
+        ShadowWall wall = Walls.like("12345678", "23456789", "3456789a", "456789ab", "56789abc", "6789abcd");
         Check.same("the whole wall", sums(wall, 0, 0, 7, 5), "336 336");
         Check.same("the upper left cell", sums(wall, 0, 0, 0, 0), "1 1");
         Check.same("the lower right cell", sums(wall, 7, 5, 7, 5), "13 13");
@@ -151,16 +134,16 @@ public final class SeenTest {
     }
 
     private static void promises24And25Refused() {
-        ShadowWall wall = wallLike("123");
+        ShadowWall wall = Walls.like("123");
         Class<IndexOutOfBoundsException> index = IndexOutOfBoundsException.class;
         Class<IllegalArgumentException> argument = IllegalArgumentException.class;
-        for (int x : NO_COLUMNS) {
+        for (int x : Walls.NO_COLUMNS) {
             Check.refuses("sum left " + x, wall, index, () -> wall.sumOfTones(x, 0, 7, 0));
             Check.refuses("sum right " + x, wall, index, () -> wall.sumOfTones(0, 1, x, 0));
             Check.refuses("table left " + x, wall, index, () -> wall.sumOfTonesByTable(x, 0, 7, 0));
             Check.refuses("table right " + x, wall, index, () -> wall.sumOfTonesByTable(0, 1, x, 0));
         }
-        for (int y : NO_ROWS) {
+        for (int y : Walls.NO_ROWS) {
             Check.refuses("sum upper " + y, wall, index, () -> wall.sumOfTones(0, y, 1, 5));
             Check.refuses("sum lower " + y, wall, index, () -> wall.sumOfTones(1, 0, 0, y));
             Check.refuses("table upper " + y, wall, index, () -> wall.sumOfTonesByTable(0, y, 1, 5));
@@ -175,7 +158,7 @@ public final class SeenTest {
     private static void promises26To29Areas() {
         ShadowWall empty = new ShadowWall();
         Check.same("areas of an empty wall", areas(empty), "1 1 48");
-        ShadowWall wall = wallLike("00112222", "01112002", "11..2002", "1.ff2222", "........", "1......1");
+        ShadowWall wall = Walls.like("00112222", "01112002", "11..2002", "1.ff2222", "........", "1......1");
         Check.same("areaSize in a corner", wall.areaSize(0, 0), 3);
         Check.same("areaSize in the same corner again", wall.areaSize(0, 0), 3);
         Check.same("areaSize of another cell of it", wall.areaSize(1, 0), 3);
@@ -195,17 +178,17 @@ public final class SeenTest {
     }
 
     private static void promises26To29OnAChessboard() {
-        ShadowWall wall = wallLike("01010101", "10101010", "01010101", "10101010", "01010101", "10101010");
+        ShadowWall wall = Walls.like("01010101", "10101010", "01010101", "10101010", "01010101", "10101010");
         Check.same("neither aslant nor from the end of a row to the next one", areas(wall), "48 48 1");
-        ShadowWall rows = wallLike("00000000", "11111111", "00000000", "11111111", "00000000", "11111111");
+        ShadowWall rows = Walls.like("00000000", "11111111", "00000000", "11111111", "00000000", "11111111");
         Check.same("areas of rows", areas(rows), "6 6 8");
-        ShadowWall columns = wallLike("01010101", "01010101", "01010101", "01010101", "01010101", "01010101");
+        ShadowWall columns = Walls.like("01010101", "01010101", "01010101", "01010101", "01010101", "01010101");
         Check.same("areas of columns", areas(columns), "8 8 6");
-        Check.same("two ends that are joined from below", areas(wallLike("01011111", "00011111")), "4 4 32");
+        Check.same("two ends that are joined from below", areas(Walls.like("01011111", "00011111")), "4 4 32");
     }
 
     private static void promise26WindingArea() {
-        ShadowWall wall = wallLike("00000000", "11111110", "00000010", "01111010", "01000010", "01111110");
+        ShadowWall wall = Walls.like("00000000", "11111110", "00000010", "01111010", "01000010", "01111110");
         Check.same("the outer one", wall.areaSize(0, 0), 13);
         Check.same("the inner one from its end", wall.areaSize(2, 4), 14);
         Check.same("the one between them", wall.areaSize(1, 3), 21);
@@ -220,7 +203,7 @@ public final class SeenTest {
             one.paint(0, 7, y, 7, y, 14);
             Check.same("the only row that is darker", one.darkestRow(), y);
         }
-        ShadowWall wall = wallLike("........", ".......e", "........", "0.......", "7.......", "71......");
+        ShadowWall wall = Walls.like("........", ".......e", "........", "0.......", "7.......", "71......");
         Check.same("the lowest row", wall.darkestRow(), 5);
         wall.paint(0, 1, 5, 1, 5, 8);
         Check.same("of two with 105, the upper one", wall.darkestRow(), 3);
@@ -233,7 +216,7 @@ public final class SeenTest {
 
     private static void promise31IsMirrored() {
         Check.same("an empty wall", new ShadowWall().isMirrored(), true);
-        ShadowWall wall = wallLike("12344321", "........", "0......0", "...99...", "........", "ff5ff5ff");
+        ShadowWall wall = Walls.like("12344321", "........", "0......0", "...99...", "........", "ff5ff5ff");
         Check.same("mirrored", wall.isMirrored(), true);
         for (int x = 0; x < 8; x++) {
             for (int y = 0; y < 6; y++) {
@@ -285,12 +268,12 @@ public final class SeenTest {
     }
 
     private static void cellsThatAreNotThere() {
-        ShadowWall wall = wallLike("123");
-        for (int x : NO_COLUMNS) {
+        ShadowWall wall = Walls.like("123");
+        for (int x : Walls.NO_COLUMNS) {
             cellIsNotThere(wall, x, 0);
             cellIsNotThere(wall, x, 5);
         }
-        for (int y : NO_ROWS) {
+        for (int y : Walls.NO_ROWS) {
             cellIsNotThere(wall, 0, y);
             cellIsNotThere(wall, 7, y);
         }

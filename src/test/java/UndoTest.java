@@ -33,12 +33,6 @@ public final class UndoTest {
         return wall;
     }
 
-    private static void feed(ShadowWall wall, String text) {
-        for (char character : text.toCharArray()) {
-            wall.feed(character);
-        }
-    }
-
     private static void isUndone(String what, Consumer<ShadowWall> change) {
         ShadowWall wall = paintedWall();
         String before = Picture.of(wall);
@@ -62,7 +56,7 @@ public final class UndoTest {
         isUndone("mergeDown", wall -> wall.mergeDown(1));
         isUndone("castShadow", wall -> wall.castShadow(2, 10));
         isUndone("runCommands", wall -> {
-            feed(wall, "merge 1;move 0 1;paint 0 0000 1;erase 0 33 1;show 0;cast 0 9");
+            Walls.feed(wall, "merge 1;move 0 1;paint 0 0000 1;erase 0 33 1;show 0;cast 0 9");
             wall.runCommands();
         });
     }
@@ -75,7 +69,7 @@ public final class UndoTest {
         Check.same("moveLayer to its own position", wall.undoCount(), 2);
         wall.paint(0, 3, 3, 3, 3, 5);
         Check.same("paint of the same tone", wall.undoCount(), 3);
-        feed(wall, "move 0 0");
+        Walls.feed(wall, "move 0 0");
         wall.runCommands();
         Check.same("runCommands", wall.undoCount(), 4);
         Check.same("paintedCells", wall.paintedCells(), 16 + 16 + 24 + 1);
@@ -178,7 +172,7 @@ public final class UndoTest {
         Check.same("a call after restore can be undone", wall.undo(), 0);
         Check.same("it is undone", Picture.of(wall), saved);
         wall.addLayer('l');
-        feed(wall, "hid");
+        Walls.feed(wall, "hid");
         wall.restore();
         Check.same("the input buffer is not restored", wall.feed('e'), 4);
     }
