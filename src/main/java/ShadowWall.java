@@ -523,9 +523,9 @@ public final class ShadowWall {
             case 's':
                 return WHITE - (WHITE - below) * (WHITE - tone) / WHITE;
             case 'd':
-                return Math.min(below, tone);
+                return below < tone ? below : tone;
             case 'l':
-                return Math.max(below, tone);
+                return below > tone ? below : tone;
             case 'a':
                 return (below + tone) / 2;
             default:

@@ -37,14 +37,6 @@ public final class ChangesEdgesTest {
         Check.end();
     }
 
-    private static String modes(ShadowWall wall) {
-        StringBuilder text = new StringBuilder();
-        for (int layer = 0; layer < wall.layerCount(); layer++) {
-            text.append(wall.mode(layer));
-        }
-        return text.toString();
-    }
-
     /** The cells of one layer, row after row. */
     private static String cells(ShadowWall wall, int layer) {
         return Picture.layers(wall).split("\n")[layer + 1].substring(3).trim();
@@ -67,7 +59,7 @@ public final class ChangesEdgesTest {
         ShadowWall wall = new ShadowWall();
         for (int position = 0; position < 6; position++) {
             Check.same("position", wall.addLayer("nmsdla".charAt(position)), position);
-            Check.same("those below stay", modes(wall), "nmsdla".substring(0, position + 1));
+            Check.same("those below stay", Walls.modes(wall), "nmsdla".substring(0, position + 1));
         }
     }
 
@@ -94,7 +86,7 @@ public final class ChangesEdgesTest {
                 wall.paint(i, i, 0, i, 0, i);
             }
             wall.removeLayer(layer);
-            Check.same("modes", modes(wall), due[layer]);
+            Check.same("modes", Walls.modes(wall), due[layer]);
             for (int i = 0; i < 5; i++) {
                 int earlier = i < layer ? i : i + 1;
                 Check.same("tones", wall.tone(i, earlier, 0), earlier);
@@ -271,7 +263,7 @@ public final class ChangesEdgesTest {
                 wall.paint(from, 2, 2, 2, 2, 9);
                 wall.hide(from);
                 wall.moveLayer(from, to);
-                Check.same("from " + from + " to " + to, modes(wall),
+                Check.same("from " + from + " to " + to, Walls.modes(wall),
                         due.toString().replaceAll("[^a-z]", ""));
                 Check.same("it keeps what it has", wall.isVisible(to) + " " + wall.painted(to), "false 1");
             }
@@ -329,14 +321,14 @@ public final class ChangesEdgesTest {
     private static void promise9Removed() {
         ShadowWall low = Walls.with("nnmsdl");
         low.mergeDown(1);
-        Check.same("at the bottom", modes(low), "nmsdl");
+        Check.same("at the bottom", Walls.modes(low), "nmsdl");
         ShadowWall high = Walls.with("msdlnn");
         high.mergeDown(5);
-        Check.same("at the top", modes(high), "msdln");
+        Check.same("at the top", Walls.modes(high), "msdln");
         ShadowWall middle = Walls.with("mnnsn");
         middle.hide(3);
         middle.mergeDown(2);
-        Check.same("in the middle", modes(middle) + middle.isVisible(1) + middle.isVisible(2), "mnsntruefalse");
+        Check.same("in the middle", Walls.modes(middle) + middle.isVisible(1) + middle.isVisible(2), "mnsntruefalse");
     }
 
     /** "Returns the number of cells in which the merged layer has a tone.": from 0 to 48. */
@@ -398,6 +390,6 @@ public final class ChangesEdgesTest {
             Check.same("of the one on top", wall.castShadow(layer, 13), 1);
             Check.same("where it is", wall.tone(layer + 1, layer + 1, layer + 1), 8);
         }
-        Check.same("layers", modes(wall), "nmmmmm");
+        Check.same("layers", Walls.modes(wall), "nmmmmm");
     }
 }

@@ -1,7 +1,7 @@
 import java.util.Objects;
 import java.util.concurrent.Callable;
 
-/** What the project's tests share: they count and print each answer that is not due, and end with 1 if there was one. */
+/** What the project's tests share: they count and print each answer that is not due, and end with 1 for any. */
 final class Check {
     private static int checked = 0;
     private static int wrong = 0;

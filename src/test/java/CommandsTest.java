@@ -108,12 +108,14 @@ public final class CommandsTest {
             Check.throwsJust("an x", IllegalArgumentException.class, wall::runCommands);
             before = before.replace("error none", "error 0");
         }
-        Walls.runRefused(wall, "cast 0 12;cast 0 12;cast 0 12;cast 0 12;cast 0 12", UnsupportedOperationException.class);
+        Walls.runRefused(wall, "cast 0 12;cast 0 12;cast 0 12;cast 0 12;cast 0 12",
+                UnsupportedOperationException.class);
         Check.same("the seventh layer", wall.failedCommand(), 4);
         Walls.runRefused(wall, "layer n;layer n;layer n;layer n;layer n", UnsupportedOperationException.class);
         Check.same("the state after it", Picture.of(wall).replace("failed 4", "failed none"), before);
         Check.same("what can be undone", wall.undo() + " " + wall.undo(), "1 0");
-        Check.same("the greatest radius is one that can be written", Walls.run(wall, "layer n;paint 0 0075 1;erase 0 00 9"), 3);
+        Check.same("the greatest radius is one that can be written",
+                Walls.run(wall, "layer n;paint 0 0075 1;erase 0 00 9"), 3);
         Check.same("after it", wall.painted(0), 0);
     }
 

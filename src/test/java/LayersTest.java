@@ -190,18 +190,18 @@ public final class LayersTest {
     private static void promise8MoveLayer() {
         ShadowWall wall = Walls.with("nmsd");
         Check.same("move empty layers up", wall.moveLayer(0, 2), 0);
-        Check.same("after it", modes(wall), "msnd");
+        Check.same("after it", Walls.modes(wall), "msnd");
         Check.same("move down", wall.moveLayer(3, 0), 0);
-        Check.same("after it", modes(wall), "dmsn");
+        Check.same("after it", Walls.modes(wall), "dmsn");
         Check.same("to its own position", wall.moveLayer(1, 1), 0);
-        Check.same("after it", modes(wall), "dmsn");
+        Check.same("after it", Walls.modes(wall), "dmsn");
         wall.paint(3, 0, 0, 2, 2, 5);
         wall.paint(1, 1, 1, 4, 4, 5);
         Check.same("the cells that change", wall.moveLayer(1, 3), 4);
         Check.same("and back", wall.moveLayer(3, 1), 4);
         wall.hide(1);
         Check.same("a hidden one changes nothing", wall.moveLayer(1, 3), 0);
-        Check.same("after it", modes(wall) + wall.isVisible(3) + wall.painted(3), "dsnmfalse16");
+        Check.same("after it", Walls.modes(wall) + wall.isVisible(3) + wall.painted(3), "dsnmfalse16");
         wall.show(3);
         wall.paint(0, 0, 0, 0, 0, 3);
         wall.paint(0, 7, 5, 7, 5, 3);
@@ -211,14 +211,6 @@ public final class LayersTest {
             Check.refuses("move from " + layer, wall, IndexOutOfBoundsException.class, () -> wall.moveLayer(layer, 0));
             Check.refuses("move to " + layer, wall, IndexOutOfBoundsException.class, () -> wall.moveLayer(0, layer));
         }
-    }
-
-    private static String modes(ShadowWall wall) {
-        StringBuilder text = new StringBuilder();
-        for (int layer = 0; layer < wall.layerCount(); layer++) {
-            text.append(wall.mode(layer));
-        }
-        return text.toString();
     }
 
     private static void promise9MergeDown() {

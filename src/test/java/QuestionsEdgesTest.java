@@ -29,6 +29,7 @@ public final class QuestionsEdgesTest {
         promises24And25EachRectangle();
         promise26FromOneToAll();
         promises27And28FromOneToAll();
+        promise28JoinedAgain();
         promise29FromOneToAll();
         promise30OfSeveralTheUpper();
         promise30EachRow();
@@ -313,6 +314,14 @@ public final class QuestionsEdgesTest {
         Check.same("joined from the right", counts(Walls.like("...0", "..00", ".00", "00")), "3 3");
     }
 
+    /** Sets that were joined for an earlier answer are not joined for the next one. */
+    private static void promise28JoinedAgain() {
+        ShadowWall wall = Walls.like("0.0", "000");
+        Check.same("the upper left cell's set joins another one", counts(wall) + " " + counts(wall), "3 3 3 3");
+        wall.paint(0, 0, 1, 7, 5, 9);
+        Check.same("then it does not", counts(wall) + " " + counts(wall), "5 5 5 5");
+    }
+
     private static void promise29FromOneToAll() {
         Check.same("all", new ShadowWall().largestArea(), 48);
         Check.same("one", Walls.like("01234567", "89abcdef", "01234567", "89abcdef", "01234567", "89abcdef")
@@ -510,7 +519,7 @@ public final class QuestionsEdgesTest {
         }
     }
 
-    /** No question of promises 11 to 38 is recorded or changes the state; nor does its answer change when asked again. */
+    /** No question of promises 11 to 38 is recorded or changes the state; asked again, it has the same answer. */
     private static void questionsChangeNothing() {
         ShadowWall wall = Walls.like("012345", "678", "", "9a");
         wall.castShadow(0, 14);

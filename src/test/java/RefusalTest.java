@@ -178,7 +178,8 @@ public final class RefusalTest {
         refused("9: the upper one is hidden", OPERATION, wall -> wall.mergeDown(4));
         refused("9: the lower one is hidden", OPERATION, wall -> wall.mergeDown(5));
         for (char mode : "msdla".toCharArray()) {
-            refused("9: both of mode " + mode, OPERATION, () -> Walls.with("" + mode + mode), wall -> wall.mergeDown(1));
+            refused("9: both of the mode " + mode, OPERATION, () -> Walls.with("" + mode + mode),
+                    wall -> wall.mergeDown(1));
         }
     }
 

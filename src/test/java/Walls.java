@@ -29,6 +29,15 @@ final class Walls {
         return wall;
     }
 
+    /** The modes of all layers, from the bottom to the top. */
+    static String modes(ShadowWall wall) {
+        StringBuilder text = new StringBuilder();
+        for (int layer = 0; layer < wall.layerCount(); layer++) {
+            text.append(wall.mode(layer));
+        }
+        return text.toString();
+    }
+
     static void feed(ShadowWall wall, String text) {
         for (char character : text.toCharArray()) {
             wall.feed(character);
