@@ -5,8 +5,9 @@ import java.util.function.Supplier;
 
 /**
  * Each "Throws" of the document by itself (those of promise 40 are in CommandTextEdgesTest, as runCommands empties the
- * input buffer), and: "A method that throws an exception leaves the state unchanged". The same wall is made twice; one of them refuses a call. From then on both must answer alike: what is asked, the text
- * in the input buffer, all that can be undone, and the saved state.
+ * input buffer), and: "A method that throws an exception leaves the state unchanged". The same wall is made twice; one
+ * of them refuses a call. From then on both must answer alike: what is asked, the text in the input buffer, all that
+ * can be undone, and the saved state.
  */
 public final class RefusalTest {
     private static final Class<IndexOutOfBoundsException> INDEX = IndexOutOfBoundsException.class;
